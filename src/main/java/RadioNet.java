@@ -742,8 +742,10 @@ public final class RadioNet {
                 return 0;
             }
             stations[station].mode = Mode.WAITING;
-            waiting[waitingCount] = station;
-            waitingCount++;
+            if (waitingCount < STATION_LIMIT) {
+                waiting[waitingCount] = station;
+                waitingCount++;
+            }
             return waitingOn(channel);
         }
 
@@ -1002,7 +1004,8 @@ public final class RadioNet {
             for (int head = 0; head < queued && head < STATION_LIMIT; head++) {
                 int relay = queue[head];
                 for (int i = 0; i < net.count; i++) {
-                    if (hops[i] < 0 && net.stations[i].hears(net.stations[relay])) {
+                    if (hops[i] < 0 && queued < STATION_LIMIT
+                            && net.stations[i].hears(net.stations[relay])) {
                         hops[i] = hops[relay] + 1;
                         queue[queued] = i;
                         queued++;
@@ -1211,8 +1214,10 @@ public final class RadioNet {
         }
 
         void append(char character) {
-            buffer[length] = character;
-            length++;
+            if (length < BUFFER_LIMIT) {
+                buffer[length] = character;
+                length++;
+            }
         }
 
         void empty() {

@@ -9,6 +9,7 @@ public final class ProgramsTest {
     public static void main(String[] args) {
         type();
         commands();
+        everyValueAtItsPlace();
         numbers();
         errorPositions();
         failedCommands();
@@ -57,6 +58,59 @@ public final class ProgramsTest {
         Check.same("channel", 9, net.channel(0));
         Check.same("in order", 3, Check.run(net, "call 0;over 0;tune 0=3"));
         Check.same("logLength", 2, net.logLength());
+    }
+
+    /** Each command changes what it names, and nothing else. */
+    private static void everyValueAtItsPlace() {
+        RadioNet net = new RadioNet();
+        RadioNet twin = new RadioNet();
+        Check.run(net, "station Q8 12,34 56 7;station B3 98,76 54 7");
+        twin.addStation('Q', 8, 12, 34, 56, 7);
+        twin.addStation('B', 3, 98, 76, 54, 7);
+        alike(net, twin);
+        Check.run(net, "move 1 23,45");
+        twin.move(1, 23, 45);
+        alike(net, twin);
+        Check.run(net, "power 0=99");
+        twin.setPower(0, 99);
+        alike(net, twin);
+        Check.run(net, "tune 1=6");
+        twin.tune(1, 6);
+        alike(net, twin);
+        Check.run(net, "tune 1=7;call 1;call 0");
+        twin.tune(1, 7);
+        twin.request(1);
+        twin.request(0);
+        alike(net, twin);
+        Check.run(net, "wait 6");
+        twin.pass(6);
+        alike(net, twin);
+        Check.run(net, "cancel 0");
+        twin.cancel(0);
+        alike(net, twin);
+        Check.run(net, "limit 34");
+        twin.setTurnLimit(34);
+        alike(net, twin);
+        Check.run(net, "over 1");
+        twin.release(1);
+        alike(net, twin);
+        Check.run(net, "wait");
+        twin.pass(1);
+        alike(net, twin);
+
+        RadioNet fresh = new RadioNet();
+        fresh.addStation('A', 0, 0, 0, 1, 0);
+        Check.same("the first command of all", 1, Check.run(fresh, "power 0=5"));
+        Check.same("power", 5, fresh.power(0));
+    }
+
+    private static void alike(RadioNet net, RadioNet twin) {
+        Check.same("state", Check.state(twin), Check.state(net));
+        for (int i = 0; i < net.stations(); i++) {
+            net.writeStation(i);
+            twin.writeStation(i);
+            Check.same("line", Check.output(twin), Check.output(net));
+        }
     }
 
     private static void numbers() {

@@ -89,6 +89,8 @@ public final class StationsTest {
         net.addStation('C', 0, 53, 54, 99, 3);
         net.addStation('D', 0, 50, 50, 99, 4);
         Check.same("both hear it, the last one at its full range", 2, net.move(0, 50, 50));
+        Check.same("the first alone, at its full range", 1, net.move(1, 49, 50));
+        Check.same("the first alone", 1, net.move(1, 50, 50));
         Check.same("a step too far for one", 1, net.move(0, 49, 50));
         Check.same("too far for all", 0, net.move(0, 0, 99));
         net.writeStation(0);

@@ -8,6 +8,8 @@ public final class UndoTest {
         eightLatest();
         afterUndoing();
         saveAndRestore();
+        logComesBack();
+        turnBeginComesBack();
         bufferStays();
         Check.end();
     }
@@ -125,6 +127,63 @@ public final class UndoTest {
         Check.same("changes count anew", 0, net.undo());
         Check.same("undone", saved, Check.state(net));
         Check.refuses("no more", STATE, net, net::undo);
+    }
+
+    private static RadioNet pair() {
+        RadioNet net = new RadioNet();
+        net.addStation('A', 0, 0, 0, 20, 0);
+        net.addStation('B', 0, 0, 0, 20, 1);
+        return net;
+    }
+
+    private static void turn(RadioNet net, int station, int minutes) {
+        net.request(station);
+        net.pass(minutes);
+        net.release(station);
+    }
+
+    /** A log whose oldest entries have gone has them again. */
+    private static void logComesBack() {
+        RadioNet net = pair();
+        for (int i = 0; i < 16; i++) {
+            turn(net, i % 3 == 0 ? 0 : 1, i % 5 + 1);
+        }
+        String full = Check.state(net);
+        net.save();
+        net.request(0);
+        net.release(0);
+        net.undo();
+        net.undo();
+        Check.same("undone", full, Check.state(net));
+        for (int i = 0; i < 5; i++) {
+            turn(net, 0, 7);
+        }
+        net.restore();
+        Check.same("restored", full, Check.state(net));
+        Check.run(net, "call 1;wait 9;over 1;call 0;over 0");
+        Check.same("the station of a program's turn", 1, net.logStation(14));
+        Check.same("its minutes", 9, net.logMinutes(14));
+        Check.same("the begin of the next", net.time(), net.logBegin(15));
+        net.undo();
+        Check.same("undone", full, Check.state(net));
+    }
+
+    private static void turnBeginComesBack() {
+        RadioNet net = pair();
+        net.request(0);
+        net.pass(4);
+        net.save();
+        net.release(0);
+        net.request(0);
+        net.undo();
+        net.undo();
+        Check.same("the turn's minutes after undoing", 4, net.release(0));
+        net.pass(9);
+        net.request(0);
+        net.restore();
+        net.pass(1);
+        Check.same("the turn's minutes after restoring", 5, net.release(0));
+        Check.same("its begin", 0, net.logBegin(0));
     }
 
     private static void bufferStays() {
