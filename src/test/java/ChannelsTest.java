@@ -16,7 +16,7 @@ public final class ChannelsTest {
     }
 
     private static void lines() {
-        RadioNet net = new RadioNet();
+        Net net = new Net();
         for (int i = 0; i < 8; i++) {
             net.addStation('A', i, 0, 0, 1, i % 2 * 9);
         }
@@ -45,7 +45,7 @@ public final class ChannelsTest {
     }
 
     private static void wrongChannels() {
-        RadioNet net = new RadioNet();
+        Net net = new Net();
         net.addStation('A', 0, 0, 0, 1, 9);
         for (int outside : new int[] {-1, 10, Integer.MIN_VALUE, Integer.MAX_VALUE}) {
             Check.refuses("speaker", INDEX, net, () -> net.speaker(outside));
@@ -55,8 +55,8 @@ public final class ChannelsTest {
         }
     }
 
-    private static RadioNet line() {
-        RadioNet net = new RadioNet();
+    private static Net line() {
+        Net net = new Net();
         for (int i = 0; i < 8; i++) {
             net.addStation('A', i, 0, 0, 1, 6);
             net.request(i);
@@ -65,7 +65,7 @@ public final class ChannelsTest {
     }
 
     private static void minutesUntilTurn() {
-        RadioNet net = line();
+        Net net = line();
         for (int limit : new int[] {1, 10, 60}) {
             net.setTurnLimit(limit);
             for (int i = 1; i < 8; i++) {
@@ -74,10 +74,10 @@ public final class ChannelsTest {
         }
         net.setTurnLimit(10);
         net.pass(3);
-        String before = Check.seen(net);
-        minutesAre(net, 7, 1);
-        minutesAre(net, 67, 7);
-        Check.same("the net does not change", before, Check.seen(net));
+        Check.tells("minutesUntilTurn", 7, net, () -> net.minutesUntilTurn(1));
+        Check.tells("by simulation", 7, net, () -> net.minutesUntilTurnBySimulation(1));
+        Check.tells("minutesUntilTurn", 67, net, () -> net.minutesUntilTurn(7));
+        Check.tells("by simulation", 67, net, () -> net.minutesUntilTurnBySimulation(7));
         net.pass(7);
         minutesAre(net, 10, 2);
         net.cancel(2);
@@ -90,7 +90,7 @@ public final class ChannelsTest {
     }
 
     private static void minutesAfterTheLimitChanged() {
-        RadioNet net = line();
+        Net net = line();
         net.pass(6);
         net.setTurnLimit(4);
         minutesAre(net, 1, 1);
@@ -105,13 +105,13 @@ public final class ChannelsTest {
         Check.same("it speaks then", true, net.isSpeaking(1));
     }
 
-    private static void minutesAre(RadioNet net, int minutes, int station) {
+    private static void minutesAre(Net net, int minutes, int station) {
         Check.same("minutesUntilTurn", minutes, net.minutesUntilTurn(station));
         Check.same("by simulation", minutes, net.minutesUntilTurnBySimulation(station));
     }
 
     private static void wrongMinutes() {
-        RadioNet net = new RadioNet();
+        Net net = new Net();
         net.addStation('A', 0, 0, 0, 1, 6);
         for (int outside : new int[] {-1, 1, 8, Integer.MIN_VALUE, Integer.MAX_VALUE}) {
             Check.refuses("station", INDEX, net, () -> net.minutesUntilTurn(outside));

@@ -1,6 +1,6 @@
 import java.util.Objects;
 
-/** What the tests share: due answers, due refusals, and all that can be seen of a net as a text. */
+/** What the tests share: due answers, due refusals, programs. */
 final class Check {
     interface Call {
         Object answer();
@@ -19,11 +19,20 @@ final class Check {
     }
 
     /** A refused call throws exactly the due class, by the net's own throw, and changes nothing. */
-    static void refuses(String what, Class<?> due, RadioNet net, Call call) {
-        String before = seen(net);
-        String got = outcome(call);
-        same(what, "throws " + due.getName(), got);
-        same(what + ": what is seen afterwards", before, seen(net));
+    static void refuses(String what, Class<?> due, Net net, Call call) {
+        String before = net.whole();
+        int changes = net.countChanges();
+        same(what, "throws " + due.getName(), outcome(call));
+        same(what + ": what is seen afterwards", before, net.wholeWithLatest(changes));
+        net.forgetAllBut(changes);
+    }
+
+    /** A call that only tells something answers what is due, and changes nothing. */
+    static void tells(String what, Object due, Net net, Call call) {
+        String before = net.whole();
+        int changes = net.countChanges();
+        same(what, String.valueOf(due), outcome(call));
+        same(what + ": what is seen afterwards", before, net.wholeWithLatest(changes));
     }
 
     static String outcome(Call call) {
@@ -44,71 +53,43 @@ final class Check {
         }
     }
 
-    /** Types a text and runs it. */
-    static int run(RadioNet net, String text) {
-        type(net, text);
-        return net.run();
-    }
-
-    static void type(RadioNet net, String text) {
+    static void type(Net net, String text) {
         for (int i = 0; i < text.length(); i++) {
             net.type(text.charAt(i));
         }
     }
 
-    static String output(RadioNet net) {
-        StringBuilder text = new StringBuilder();
-        while (outcome(() -> net.charAt(text.length())).length() == 1) {
-            text.append(net.charAt(text.length()));
-        }
-        return text.toString();
+    /** Types a text and runs it. */
+    static int run(Net net, String text) {
+        type(net, text);
+        return net.run();
     }
 
-    /** All that can be seen of a net without changing it. */
-    static String seen(RadioNet net) {
-        return state(net) + "output " + output(net)
-                + "\nerror " + outcome(net::errorPosition)
-                + "\nfailed " + outcome(net::failedCommand) + "\n";
+    /** The text is no program: it is refused, the buffer is empty then, and the position recorded. */
+    static void refusesText(Net net, String text, int errorPosition) {
+        String before = net.state();
+        String failed = outcome(net.twin()::failedCommand);
+        type(net, text);
+        same("run of '" + text + "'", "throws java.lang.IllegalArgumentException", outcome(net::run));
+        same("errorPosition of '" + text + "'", errorPosition, net.errorPosition());
+        same("failedCommand after '" + text + "'", failed, outcome(net::failedCommand));
+        unchangedBut(net, text, before);
     }
 
-    /** What can be seen of the state that is undone, saved and restored. */
-    static String state(RadioNet net) {
-        StringBuilder text = new StringBuilder();
-        int count = net.stations();
-        text.append(count).append(" stations, time ").append(net.time());
-        text.append(", limit ").append(net.turnLimit()).append('\n');
-        for (int i = 0; i < count; i++) {
-            int station = i;
-            text.append(net.letter(i)).append(net.digit(i)).append(' ').append(net.channel(i));
-            text.append(' ').append(net.power(i)).append(' ').append(net.isSpeaking(i));
-            text.append(' ').append(net.isWaiting(i)).append(' ').append(net.minutesSpoken(i));
-            text.append(' ').append(net.minutesReceived(i)).append(' ').append(net.isJammed(i));
-            text.append(' ').append(outcome(() -> net.minutesUntilTurn(station)));
-            text.append(' ').append(outcome(() -> net.minutesUntilTurnBySimulation(station)));
-            text.append(' ').append(net.reachable(i));
-            text.append(' ').append(net.stationByMinutes(i)).append('\n');
-            for (int j = 0; j < count; j++) {
-                int other = j;
-                text.append(net.canHear(i, j)).append(' ');
-                text.append(outcome(() -> net.hops(station, other))).append(' ');
-                text.append(outcome(() -> net.hopsBySets(station, other))).append(' ');
-            }
-            text.append('\n');
-        }
-        for (int i = 0; i < 10; i++) {
-            int channel = i;
-            text.append(i).append(": ").append(outcome(() -> net.speaker(channel)));
-            for (int j = 1; j <= net.lineLength(i); j++) {
-                text.append(" < ").append(net.waiting(i, j));
-            }
-            text.append('\n');
-        }
-        for (int i = 0; i < net.logLength(); i++) {
-            text.append(net.logStation(i)).append('+').append(net.logBegin(i));
-            text.append('+').append(net.logMinutes(i)).append(' ');
-        }
-        text.append(net.jams()).append(' ').append(net.jamsByChannels()).append(' ');
-        text.append(outcome(net::meanPower)).append(' ').append(outcome(net::airtime)).append(' ');
-        return text.append(net.isConsistent()).append('\n').toString();
+    /** A command of the program fails: nothing is executed, and the command recorded. */
+    static void failsAt(Net net, String text, int command) {
+        String before = net.state();
+        String error = outcome(net.twin()::errorPosition);
+        type(net, text);
+        same("run of '" + text + "'", "throws java.lang.UnsupportedOperationException",
+                outcome(net::run));
+        same("failedCommand of '" + text + "'", command, net.failedCommand());
+        same("errorPosition after '" + text + "'", error, outcome(net::errorPosition));
+        unchangedBut(net, text, before);
+    }
+
+    private static void unchangedBut(Net net, String text, String before) {
+        same("state after '" + text + "'", before, net.state());
+        same("the empty buffer after '" + text + "'", 1, net.twin().type(' '));
     }
 }

@@ -16,7 +16,7 @@ public final class HearingTest {
     }
 
     private static void canHear() {
-        RadioNet net = new RadioNet();
+        Net net = new Net();
         net.addStation('A', 0, 10, 10, 5, 3);
         net.addStation('B', 0, 13, 14, 4, 3);
         net.addStation('C', 0, 10, 10, 99, 4);
@@ -41,7 +41,7 @@ public final class HearingTest {
     }
 
     private static void isJammed() {
-        RadioNet net = new RadioNet();
+        Net net = new Net();
         net.addStation('A', 0, 0, 0, 10, 5);
         net.addStation('B', 0, 3, 4, 1, 4);
         net.addStation('C', 0, 0, 5, 1, 6);
@@ -73,8 +73,8 @@ public final class HearingTest {
         Check.same("channels 9 and 0 are no neighbours", false, ends().isJammed(0));
     }
 
-    private static RadioNet ends() {
-        RadioNet net = new RadioNet();
+    private static Net ends() {
+        Net net = new Net();
         net.addStation('A', 0, 0, 0, 99, 0);
         net.addStation('B', 0, 0, 0, 99, 9);
         net.request(1);
@@ -82,7 +82,7 @@ public final class HearingTest {
     }
 
     private static void jams() {
-        RadioNet net = new RadioNet();
+        Net net = new Net();
         for (int i = 0; i < 8; i++) {
             net.addStation('A', i, 50, 50, 20, i / 2 + 6);
         }
@@ -108,13 +108,13 @@ public final class HearingTest {
         Check.same("the net agrees", true, net.isConsistent());
     }
 
-    private static void jamsAre(RadioNet net, int pairs) {
+    private static void jamsAre(Net net, int pairs) {
         Check.same("jams", pairs, net.jams());
         Check.same("jamsByChannels", pairs, net.jamsByChannels());
     }
 
     private static void hopsOfChain() {
-        RadioNet net = new RadioNet();
+        Net net = new Net();
         for (int i = 0; i < 8; i++) {
             net.addStation('A', i, 10 * i, 0, 10, 2);
         }
@@ -142,7 +142,7 @@ public final class HearingTest {
     }
 
     private static void hopsOfShortcut() {
-        RadioNet net = new RadioNet();
+        Net net = new Net();
         net.addStation('A', 0, 0, 0, 40, 2);
         net.addStation('B', 0, 10, 0, 10, 2);
         net.addStation('C', 0, 20, 0, 10, 2);
@@ -161,18 +161,18 @@ public final class HearingTest {
         noHops(net, 3, 0);
     }
 
-    private static void hopsAre(RadioNet net, int due, int from, int to) {
+    private static void hopsAre(Net net, int due, int from, int to) {
         Check.same("hops", due, net.hops(from, to));
         Check.same("hopsBySets", due, net.hopsBySets(from, to));
     }
 
-    private static void noHops(RadioNet net, int from, int to) {
+    private static void noHops(Net net, int from, int to) {
         Check.refuses("hops", ELEMENT, net, () -> net.hops(from, to));
         Check.refuses("hopsBySets", ELEMENT, net, () -> net.hopsBySets(from, to));
     }
 
     private static void wrongStations() {
-        RadioNet net = new RadioNet();
+        Net net = new Net();
         net.addStation('A', 0, 0, 0, 40, 2);
         net.addStation('B', 0, 0, 0, 40, 2);
         for (int outside : new int[] {-1, 2, 8, 32, 33, Integer.MIN_VALUE, Integer.MAX_VALUE}) {

@@ -14,7 +14,7 @@ public final class LogTest {
     }
 
     private static void log() {
-        RadioNet net = new RadioNet();
+        Net net = new Net();
         wrongEntries(net);
         net.addStation('A', 0, 0, 0, 1, 0);
         net.addStation('B', 0, 0, 0, 1, 0);
@@ -33,7 +33,7 @@ public final class LogTest {
     }
 
     private static void latestEntries() {
-        RadioNet net = new RadioNet();
+        Net net = new Net();
         net.addStation('A', 0, 0, 0, 1, 0);
         net.addStation('B', 0, 0, 0, 1, 4);
         for (int i = 0; i < 20; i++) {
@@ -41,22 +41,24 @@ public final class LogTest {
             net.request(i % 2);
             net.pass(i % 3 + 1);
             net.release(i % 2);
-            for (int j = 0; j < net.logLength(); j++) {
-                int turn = i - net.logLength() + 1 + j;
+            Net seen = net.twin();
+            int length = Math.min(i + 1, 16);
+            for (int j = 0; j < length; j++) {
+                int turn = i - length + 1 + j;
                 int begin = turn / 3 * 6 + (turn % 3 == 0 ? 0 : turn % 3 == 1 ? 1 : 3);
-                entryIs(net, j, turn % 2, begin, turn % 3 + 1);
+                entryIs(seen, j, turn % 2, begin, turn % 3 + 1);
             }
         }
         wrongEntries(net);
     }
 
-    private static void entryIs(RadioNet net, int entry, int station, int begin, int minutes) {
+    private static void entryIs(Net net, int entry, int station, int begin, int minutes) {
         Check.same("logStation", station, net.logStation(entry));
         Check.same("logBegin", begin, net.logBegin(entry));
         Check.same("logMinutes", minutes, net.logMinutes(entry));
     }
 
-    private static void wrongEntries(RadioNet net) {
+    private static void wrongEntries(Net net) {
         int count = net.logLength();
         for (int outside : new int[] {-1, count, 16, Integer.MIN_VALUE, Integer.MAX_VALUE}) {
             Check.refuses("logStation", INDEX, net, () -> net.logStation(outside));
@@ -66,7 +68,7 @@ public final class LogTest {
     }
 
     private static void timeAndLimit() {
-        RadioNet net = new RadioNet();
+        Net net = new Net();
         Check.same("turnLimit", 10, net.turnLimit());
         net.pass(1);
         net.pass(60);
@@ -79,7 +81,7 @@ public final class LogTest {
     }
 
     private static void meanPower() {
-        RadioNet net = new RadioNet();
+        Net net = new Net();
         Check.refuses("no stations", ARITHMETIC, net, net::meanPower);
         net.addStation('A', 0, 0, 0, 7, 0);
         Check.same("one", 7.0, net.meanPower());
@@ -92,7 +94,7 @@ public final class LogTest {
     }
 
     private static void airtime() {
-        RadioNet net = new RadioNet();
+        Net net = new Net();
         net.addStation('A', 0, 0, 0, 7, 0);
         net.addStation('B', 0, 0, 0, 7, 1);
         net.request(0);
@@ -106,13 +108,13 @@ public final class LogTest {
         net.release(1);
         net.pass(60);
         Check.same("none", 5.0f / 63.0f, net.airtime());
-        RadioNet empty = new RadioNet();
+        Net empty = new Net();
         empty.pass(1);
         Check.same("no stations", 0.0f, empty.airtime());
     }
 
     private static void isConsistent() {
-        RadioNet net = new RadioNet();
+        Net net = new Net();
         Check.same("new", true, net.isConsistent());
         for (int i = 0; i < 8; i++) {
             net.addStation('A', i, 12 * i, 10, 25, i / 3);
@@ -122,9 +124,7 @@ public final class LogTest {
         for (int i = 0; i < 40; i++) {
             net.pass(1);
             net.setTurnLimit(i % 7 + 1);
-            String before = Check.seen(net);
-            Check.same("later", true, net.isConsistent());
-            Check.same("the net does not change", before, Check.seen(net));
+            Check.tells("later", true, net, net::isConsistent);
         }
     }
 }

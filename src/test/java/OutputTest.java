@@ -10,18 +10,18 @@ public final class OutputTest {
         Check.end();
     }
 
-    private static void stationIs(RadioNet net, int station, String line) {
+    private static void stationIs(Net net, int station, String line) {
         Check.same("writeStation", line.length(), net.writeStation(station));
-        Check.same("line", line, Check.output(net));
+        Check.same("line", line, net.output());
     }
 
-    private static void channelIs(RadioNet net, int channel, String line) {
+    private static void channelIs(Net net, int channel, String line) {
         Check.same("writeChannel", line.length(), net.writeChannel(channel));
-        Check.same("line", line, Check.output(net));
+        Check.same("line", line, net.output());
     }
 
-    private static RadioNet three() {
-        RadioNet net = new RadioNet();
+    private static Net three() {
+        Net net = new Net();
         net.addStation('K', 7, 10, 4, 20, 3);
         net.addStation('A', 0, 0, 99, 20, 3);
         net.addStation('B', 3, 99, 0, 20, 3);
@@ -29,7 +29,7 @@ public final class OutputTest {
     }
 
     private static void writeStation() {
-        RadioNet net = three();
+        Net net = three();
         stationIs(net, 0, "K7@10,4#3");
         net.request(0);
         net.request(1);
@@ -48,7 +48,7 @@ public final class OutputTest {
     }
 
     private static void writeChannel() {
-        RadioNet net = three();
+        Net net = three();
         channelIs(net, 3, "");
         net.request(0);
         channelIs(net, 3, "K7");
@@ -67,7 +67,7 @@ public final class OutputTest {
         for (int outside : new int[] {-1, 10, Integer.MIN_VALUE, Integer.MAX_VALUE}) {
             Check.refuses("channel", INDEX, net, () -> net.writeChannel(outside));
         }
-        RadioNet full = new RadioNet();
+        Net full = new Net();
         for (int i = 0; i < 8; i++) {
             full.addStation('W', i, 0, 0, 1, 0);
             full.request(i);
@@ -76,7 +76,7 @@ public final class OutputTest {
     }
 
     private static void charAt() {
-        RadioNet net = three();
+        Net net = three();
         Check.refuses("empty at first", INDEX, net, () -> net.charAt(0));
         net.writeStation(0);
         Check.same("first", 'K', net.charAt(0));
@@ -89,7 +89,7 @@ public final class OutputTest {
     }
 
     private static void lineStays() {
-        RadioNet net = three();
+        Net net = three();
         net.save();
         net.writeStation(0);
         net.request(0);
@@ -97,6 +97,6 @@ public final class OutputTest {
         Check.run(net, "over 0");
         net.undo();
         net.restore();
-        Check.same("the line is no part of the state", "K7@10,4#3", Check.output(net));
+        Check.same("the line is no part of the state", "K7@10,4#3", net.output());
     }
 }

@@ -15,7 +15,7 @@ public final class PropertiesTest {
     }
 
     private static void values() {
-        RadioNet net = new RadioNet();
+        Net net = new Net();
         for (int i = 0; i < 8; i++) {
             Check.same("stations", i, net.stations());
             net.addStation((char) ('Z' - i), 9 - i, i, 2 * i, 10 + i, i + 1);
@@ -49,7 +49,7 @@ public final class PropertiesTest {
     }
 
     private static void find() {
-        RadioNet net = new RadioNet();
+        Net net = new Net();
         Check.refuses("no stations", ELEMENT, net, () -> net.find('A', 0));
         Check.refuses("what an empty place might hold", ELEMENT, net, () -> net.find((char) 0, 0));
         net.addStation('K', 7, 0, 0, 1, 0);
@@ -68,7 +68,7 @@ public final class PropertiesTest {
     }
 
     private static void wrongStations() {
-        RadioNet net = new RadioNet();
+        Net net = new Net();
         wrongStations(net, 0);
         net.addStation('A', 0, 0, 0, 1, 0);
         wrongStations(net, 1);
@@ -78,7 +78,7 @@ public final class PropertiesTest {
         wrongStations(net, 8);
     }
 
-    private static void wrongStations(RadioNet net, int count) {
+    private static void wrongStations(Net net, int count) {
         for (int outside : new int[] {-1, count, 8, Integer.MIN_VALUE, Integer.MAX_VALUE}) {
             Check.refuses("letter", INDEX, net, () -> net.letter(outside));
             Check.refuses("digit", INDEX, net, () -> net.digit(outside));
@@ -93,7 +93,7 @@ public final class PropertiesTest {
     }
 
     private static void ranks() {
-        RadioNet net = new RadioNet();
+        Net net = new Net();
         net.addStation('A', 0, 0, 0, 10, 0);
         net.addStation('B', 0, 0, 0, 10, 0);
         net.addStation('C', 0, 90, 90, 10, 0);
@@ -111,7 +111,7 @@ public final class PropertiesTest {
     }
 
     private static void ranksOfEqualMinutes() {
-        RadioNet net = new RadioNet();
+        Net net = new Net();
         net.addStation('B', 1, 0, 0, 10, 0);
         net.addStation('C', 0, 0, 0, 10, 1);
         net.addStation('B', 0, 0, 0, 10, 2);
@@ -124,7 +124,7 @@ public final class PropertiesTest {
         ranksAre(net, 1, 2, 3, 0);
     }
 
-    private static void ranksAre(RadioNet net, int... stations) {
+    private static void ranksAre(Net net, int... stations) {
         for (int i = 0; i < stations.length; i++) {
             Check.same("rank " + i, stations[i], net.stationByMinutes(i));
         }

