@@ -110,8 +110,11 @@ final class Net {
     }
 
     private static String stateOf(List<Call<?>> past) {
-        return Seen.stations(twinOf(past)) + Seen.places(twinOf(past)) + Seen.channels(twinOf(past))
-                + Seen.log(twinOf(past)) + Seen.turns(twinOf(past));
+        Net twin = twinOf(past);
+        // The places need a new output line, and the turns must end to be seen, so they come late.
+        String seen = Seen.stations(twin) + Seen.channels(twin) + Seen.log(twin);
+        Net late = past.size() < CALLS / 2 ? twin : twinOf(past);
+        return seen + Seen.places(late) + Seen.turns(late);
     }
 
     String output() {
