@@ -62,7 +62,7 @@ public final class GrammarTest {
     }
 
     /** "the index of the first character at which no program can continue, or the length", or -1 */
-    private static int errorPosition(String text) {
+    static int errorPosition(String text) {
         for (int i = 1; i <= text.length(); i++) {
             Matcher beginning = PROGRAM.matcher(text.substring(0, i));
             if (!beginning.matches() && !beginning.hitEnd()) {
